@@ -294,11 +294,7 @@ public final class RankDesk {
 
     public int claimed(int what) throws IllegalArgumentException {
         requireRange(what, 0, 1);
-        Certificate certificate = now.certificate;
-        if (!certificate.hasClaim) {
-            return NONE;
-        }
-        return what == 0 ? certificate.claimedRows : certificate.claimedColumns;
+        return what == 0 ? now.certificate.claimedRows : now.certificate.claimedColumns;
     }
 
     public long relationOf(int relation, int row) throws IndexOutOfBoundsException {
@@ -319,7 +315,7 @@ public final class RankDesk {
 
     public int flaw() {
         Certificate certificate = now.certificate;
-        if (!certificate.hasClaim) {
+        if (!certificate.hasClaim()) {
             return 1;
         }
         if (reckoner.minorOf(now.matrix, certificate.claimedRows, certificate.claimedColumns) == 0) {
@@ -530,7 +526,7 @@ public final class RankDesk {
     public int writeCertificate() {
         Certificate certificate = now.certificate;
         output.clear();
-        if (certificate.hasClaim) {
+        if (certificate.hasClaim()) {
             output.addText("rows");
             output.addSet(certificate.claimedRows);
             output.addText(" columns");
@@ -1031,10 +1027,10 @@ public final class RankDesk {
 
         long minorDivisor(Matrix matrix, int size) {
             long divisor = 0;
-            for (int rows = 0; rows <= matrix.allRows() && rows < SETS; rows++) {
+            for (int rows = 0; rows <= matrix.allRows(); rows++) {
                 if (Integer.bitCount(rows) == size) {
                     expandMinors(matrix, rows);
-                    for (int columns = 0; columns <= matrix.allColumns() && columns < SETS; columns++) {
+                    for (int columns = 0; columns <= matrix.allColumns(); columns++) {
                         if (Integer.bitCount(columns) == size) {
                             divisor = commonDivisor(divisor, minorAt(columns));
                         }
@@ -1062,18 +1058,20 @@ public final class RankDesk {
 
         private void scaleRelation(int m, int row) {
             long own = relation.at(0, row);
-            long divisor = 0;
-            for (int k = 0; k < relation.width; k++) {
-                divisor = commonDivisor(divisor, relation.at(0, k));
-            }
-            if (own < 0) {
-                divisor = -divisor;
-            }
-            long scale = m == INTEGERS ? 1 : inverse(own, m);
+            long divisor = own < 0 ? -divisorOfRelation() : divisorOfRelation();
+            long scale = inverse(own, m);
             for (int k = 0; k < relation.width; k++) {
                 long value = relation.at(0, k);
                 relation.put(0, k, m == INTEGERS ? quotient(value, divisor) : remainder(value * scale, m));
             }
+        }
+
+        private long divisorOfRelation() {
+            long divisor = 0;
+            for (int k = 0; k < relation.width; k++) {
+                divisor = commonDivisor(divisor, relation.at(0, k));
+            }
+            return divisor;
         }
 
         void makeGuess(Guess guess, Matrix matrix, int place, int prime) {
@@ -1228,37 +1226,37 @@ public final class RankDesk {
         }
     }
 
-    /** The vector, the claim and the relations, each of them a line of a matrix. */
+    /** The vector and the relations, each a line of a matrix, and the claim, whose sets are NONE if there is none. */
     private static final class Certificate {
         final Matrix vector;
         final Matrix relations;
-        boolean hasClaim;
         int claimedRows;
         int claimedColumns;
 
         Certificate() {
             vector = new Matrix(1, 1);
             relations = new Matrix(0, 1);
+            claimedRows = NONE;
+            claimedColumns = NONE;
         }
 
         void clear(int rowCount) {
             vector.reset(1, rowCount);
             relations.reset(0, rowCount);
-            hasClaim = false;
-            claimedRows = 0;
-            claimedColumns = 0;
+            setClaim(NONE, NONE);
         }
 
         void copyFrom(Certificate other) {
             vector.copyFrom(other.vector);
             relations.copyFrom(other.relations);
-            hasClaim = other.hasClaim;
-            claimedRows = other.claimedRows;
-            claimedColumns = other.claimedColumns;
+            setClaim(other.claimedRows, other.claimedColumns);
+        }
+
+        boolean hasClaim() {
+            return claimedRows != NONE;
         }
 
         void setClaim(int rows, int columns) {
-            hasClaim = true;
             claimedRows = rows;
             claimedColumns = columns;
         }

@@ -98,6 +98,31 @@ public final class CertificatesTest {
         Check.answers("47 no vector", () -> desk.vector(0), 0);
     }
 
+    private static void firstColumnsAndRows() {
+        RankDesk desk = Desks.of("matrix 2 2;row 1,0;row 2,0;");
+        desk.setVector(0, 1);
+        desk.addRelation();
+        Check.isTrue("40 column 0", !desk.holds(0));
+        Check.answers("39 row 0", () -> desk.head(0), 0);
+        desk.setVector(0, 4);
+        desk.addRelation();
+        desk.dropRelation(0);
+        Check.answers("53 row 0", () -> desk.relationOf(0, 0), 4);
+    }
+
+    private static void twinHeads() {
+        RankDesk desk = Desks.of("matrix 3 1;row 1;");
+        desk.claim(1, 1);
+        for (int value : new int[] {1, 2, 1}) {
+            desk.setVector(1, value == 1 ? 1 : 0);
+            desk.setVector(2, value == 2 ? 1 : 0);
+            desk.addRelation();
+        }
+        Check.answers("41 heads of the first and the last", desk::flaw, 4);
+        desk.dropRelation(2);
+        Check.answers("41 none", desk::flaw, 0);
+    }
+
     private static void flaws() {
         RankDesk desk = Desks.of(THREE);
         Check.answers("41 no claim", desk::flaw, 1);
@@ -127,6 +152,11 @@ public final class CertificatesTest {
         Check.answers("41 an empty claim", desk::flaw, 5);
         RankDesk zeros = new RankDesk();
         zeros.setVector(0, 3);
+        zeros.addRelation();
+        Check.answers("38 a new desk", () -> zeros.relationOf(0, 0), 3);
+        Check.answers("39 a new desk", () -> zeros.head(0), 0);
+        Check.same("62 a new desk", Desks.certificate(zeros), "\n3\n");
+        zeros.dropRelation(0);
         zeros.addRelation();
         zeros.claim(0, 0);
         Check.answers("41 an empty claim", zeros::flaw, 0);
@@ -180,6 +210,8 @@ public final class CertificatesTest {
         claims();
         relations();
         relationsStay();
+        firstColumnsAndRows();
+        twinHeads();
         flaws();
         certified();
         greatRelations();

@@ -61,6 +61,10 @@ public final class ChangesTest {
         Check.answers("45 to 20 and -20", () -> edge.addRow(0, 1, 9), 1);
         Check.same("45 matrix", Desks.matrix(edge), "20 -20\n1 -1\n");
         Check.isBadState("45 to 21", () -> edge.addRow(0, 1, 1));
+        RankDesk first = Desks.of("matrix 2 2;row 20,0;row 1,0;");
+        Check.isBadState("45 column 0", () -> first.addRow(0, 1, 1));
+        RankDesk last = Desks.of("matrix 2 2;row 0,-20;row 0,1;");
+        Check.isBadState("45 column 1", () -> last.addRow(0, 1, -1));
         Check.answers("45 to 0", () -> edge.addRow(1, 0, 0), 1);
     }
 

@@ -103,6 +103,15 @@ public final class InputTest {
         wrong("prime 2;", 1, 0);
         wrong("matrixx 1 1;", 1, 0);
         wrong("Matrix 1 1;", 1, 0);
+        wrong("natrix 1 1;", 1, 0);
+        wrong("matrix`1 1;", 1, 6);
+        wrong("matrix 1 1;pow 1;", 1, 11);
+        wrong("matrix 1 1;crime 2;", 1, 11);
+        wrong("matrix 1 1;rowz 1;", 1, 11);
+        wrong("matrix 1 1;rowa 1;", 1, 11);
+        wrong("matrix 1 1;row{1;", 1, 14);
+        wrong("matrix 1 1;row/1;", 1, 14);
+        wrong("matrix 1 1;row:1;", 1, 14);
         wrong("matrix", 1, 6);
         wrong("matrix 1", 1, 8);
         wrong("matrix 1 ", 1, 9);

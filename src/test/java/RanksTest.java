@@ -153,6 +153,9 @@ public final class RanksTest {
     private static void unluckyPrimes() {
         RankDesk desk = Desks.of("matrix 2 2;row 6,0;row 0,5;prime 7;prime 5;prime 3;prime 2;");
         Check.answers("17 places", desk::unlucky, 14);
+        desk.setEntry(1, 1, 7);
+        Check.answers("17 place 0", desk::unlucky, 13);
+        desk.undo();
         Check.answers("18 from 2", () -> desk.nextUnlucky(2), 2);
         Check.answers("18 from 3", () -> desk.nextUnlucky(3), 3);
         Check.answers("18 from 4", () -> desk.nextUnlucky(4), 5);

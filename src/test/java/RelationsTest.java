@@ -136,6 +136,9 @@ public final class RelationsTest {
         Check.answers("30 zeros", () -> Desks.of("matrix 6 1;").circuits(0), 6);
         Check.answers("30 equal rows", () -> Desks.of("matrix 6 1;row 1;row 1;row 1;row 1;row 1;row 1;").circuits(0),
                 15);
+        RankDesk all = Desks.of("matrix 4 3;row 1,0,0;row 0,1,0;row 0,0,1;row 1,1,1;");
+        Check.answers("30 all rows", () -> all.circuits(0), 1);
+        Check.answers("31 all rows", () -> all.circuit(0, 3), 15);
         Check.isBadValue("30 modulus", () -> desk.circuits(1));
         Check.answers("31 row 1", () -> desk.circuit(0, 1), 3);
         Check.answers("31 row 2", () -> desk.circuit(0, 2), -1);
