@@ -3,9 +3,10 @@ final class Desks {
     private Desks() {
     }
 
-    /** Puts a text of any length up to 380 bytes into the input buffer, which has to be empty. */
+    /** Puts a text of any length up to 400 bytes into the input buffer, in place of what was there. */
     static void type(RankDesk desk, String text) {
         int length = text.length();
+        desk.truncate(0);
         for (int i = 0; i < length; i += 20) {
             int[] words = new int[5];
             for (int k = 0; k < 20; k++) {
