@@ -217,6 +217,21 @@ final class InputEdges {
         wrong("matrix 12;", 2, 7);
         wrong("matrixmatrix 1 1;", 1, 0);
         wrong("matrix 1 1;rowrow 1;", 1, 11);
+        Edge.says("INPUT", "a word is a maximal run of lowercase letters a-z");
+        for (String word : new String[] {"matrix", "row", "prime"}) {
+            String ahead = word.equals("matrix") ? "" : "matrix 1 1;";
+            String behind = word.equals("matrix") ? " 1 1;" : " 2;";
+            right(ahead + word + behind, word.equals("row") ? 1 : 0, word.equals("row") ? "2\n" : "0\n");
+            for (int at = 0; at < word.length(); at++) {
+                String other = word.substring(0, at) + (char) (word.charAt(at) + 1) + word.substring(at + 1);
+                wrong(ahead + other + behind, 1, ahead.length());
+                wrong(ahead + word.substring(0, at) + word.substring(at + 1) + behind, 1, ahead.length());
+                wrong(ahead + word.substring(0, at) + Character.toUpperCase(word.charAt(at)) + word.substring(at + 1)
+                        + behind, 1, ahead.length());
+            }
+            wrong(ahead + word + "s" + behind, 1, ahead.length());
+            wrong(ahead + "a" + word + behind, 1, ahead.length());
+        }
     }
 
     private static void values() {

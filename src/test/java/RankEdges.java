@@ -253,6 +253,7 @@ final class RankEdges {
         Edge.asks(RankDesk::new, RankDesk::unlucky, 0);
         Edge.asks(Edge::full, RankDesk::unlucky, 0);
         Edge.asks(Edge.text(withEntry(6)), RankDesk::unlucky, 0);
+        Edge.asks(RankEdges::fewerPrimes, RankDesk::unlucky, 0);
         Edge.says("18", "Returns the least unlucky prime number from this number on, up to 97; NONE if there is none.");
         for (int p : Edge.PRIMES) {
             Edge.answers(Edge.text(withMinor(p)), desk -> desk.nextUnlucky(2), p);
@@ -270,6 +271,13 @@ final class RankEdges {
         Edge.says("18", "Throws `IllegalArgumentException` if from is out of range");
         Edge.ranges(Edge::full, 2, 97, RankDesk::nextUnlucky, -1, -1);
         Edge.refuses(Edge.text(withEntry(2)), desk -> desk.nextUnlucky(0), Edge.BAD_VALUE);
+    }
+
+    /** The text that was loaded before told more primes, which were unlucky. */
+    private static RankDesk fewerPrimes() {
+        RankDesk desk = Desks.of("matrix 1 1;row 6;prime 5;prime 2;prime 3;");
+        Desks.load(desk, "matrix 1 1;row 6;prime 5;");
+        return desk;
     }
 
     private static void nullities() {
