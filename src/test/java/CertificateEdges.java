@@ -274,23 +274,25 @@ final class CertificateEdges {
         Edge.same(certificate(Desks.of(ZEROS)), "\n");
         String all = "rows 1 2 columns 0 1\n-1 2 0\n-1 2 5\n";
         Edge.same(certificate(Edge.full()), all);
-        stays(RankDesk::load, "\n");
-        stays(RankDesk::transpose, "\n");
-        stays(desk -> desk.setEntry(1, 0, 20), all);
-        stays(desk -> desk.swapRows(0, 2), all);
-        stays(desk -> desk.swapColumns(0, 2), all);
-        stays(desk -> desk.addRow(0, 1, -2), all);
-        stays(desk -> desk.negateRow(1), all);
-        stays(desk -> desk.setVector(1, 3), all);
-        stays(desk -> desk.probe(1), all);
-        stays(RankDesk::repair, all);
-        stays(desk -> desk.undo() + desk.load(), "\n");
+        stays(RankDesk::load, "\n", "0 0");
+        stays(RankDesk::transpose, "\n", "0 0 0");
+        stays(desk -> desk.setEntry(1, 0, 20), all, "-1 2 5");
+        stays(desk -> desk.swapRows(0, 2), all, "-1 2 5");
+        stays(desk -> desk.swapColumns(0, 2), all, "-1 2 5");
+        stays(desk -> desk.addRow(0, 1, -2), all, "-1 2 5");
+        stays(desk -> desk.negateRow(1), all, "-1 2 5");
+        stays(desk -> desk.setVector(1, 3), all, "-1 3 5");
+        stays(desk -> desk.probe(1), all, "-1 2 5");
+        stays(RankDesk::repair, all, "-1 2 5");
+        stays(desk -> desk.claim(0, 0), "rows columns\n-1 2 0\n-1 2 5\n", "-1 2 5");
+        stays(desk -> desk.dropRelation(0), "rows 1 2 columns 0 1\n-1 2 5\n", "-1 2 5");
     }
 
-    private static void stays(Edge.Ask change, String due) {
+    private static void stays(Edge.Ask change, String due, String vector) {
         RankDesk desk = Edge.full();
         change.of(desk);
         Edge.same(certificate(desk), due);
+        Edge.same(vector(desk), vector);
     }
 
     /** The flaw with a claim and with these relations, each told by its numbers for the three rows. */
