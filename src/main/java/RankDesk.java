@@ -1625,7 +1625,7 @@ public final class RankDesk {
         private final int[] bytes;
 
         Output() {
-            // The longest text is a certificate's, with 42 lines' numbers of at most 11 bytes each.
+            // The longest text is a certificate's: 37 bytes of a claim and 36 numbers of at most 11 bytes each.
             bytes = new int[1000];
         }
 
